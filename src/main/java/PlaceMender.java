@@ -391,7 +391,9 @@ public final class PlaceMender {
             return NOT_NOW;
         }
         makePlan();
-        return takePatch(plan.patchBytes, plan.patchBytes.size);
+        takePatch(plan.patchBytes, plan.patchBytes.size);
+        makeCourse();
+        return course.stepCount;
     }
 
     public int load(int n) {
@@ -402,12 +404,12 @@ public final class PlaceMender {
             return NOT_NOW;
         }
         latestLoad.readActs(tape, n);
-        int answer = BAD_PATCH - latestLoad.faultCode;
         if (latestLoad.faultCode == 0) {
-            answer = takePatch(tape, n);
+            takePatch(tape, n);
         }
         tape.size = 0;
-        return answer;
+        makeCourse();
+        return latestLoad.faultCode == 0 ? course.stepCount : BAD_PATCH - latestLoad.faultCode;
     }
 
     public int fault(int what) {
@@ -651,33 +653,25 @@ public final class PlaceMender {
             case 4:
             case 5:
                 return state.terms[what - 2];
+            case 6:
+                makeCourse();
+                return course.reader.actCount;
+            case 7:
+                return state.device.stepKnown ? state.device.stepNumber : NONE;
+            case 8:
+                return state.device.powered ? 1 : 0;
+            case 9:
+                return state.device.journalBlock;
             case 10:
                 return history.size;
             case 11:
                 return tape.size;
             default:
-                return countOfDevice(what);
+                return NONE;
         }
     }
 
     // ---- parts of the calls
-
-    private int countOfDevice(int what) {
-        Device device = state.device;
-        switch (what) {
-            case 6:
-                makeCourse();
-                return course.reader.actCount;
-            case 7:
-                return device.stepKnown ? device.stepNumber : NONE;
-            case 8:
-                return device.powered ? 1 : 0;
-            case 9:
-                return device.journalBlock;
-            default:
-                return NONE;
-        }
-    }
 
     private void feedWord(int word) {
         for (int shift = 24; shift >= 0; shift -= 8) {
@@ -696,12 +690,10 @@ public final class PlaceMender {
         return n;
     }
 
-    private int takePatch(Cells bytes, int n) {
+    private void takePatch(Cells bytes, int n) {
         history.keep(state.device);
         state.device.start(bytes, n);
         courseStale = true;
-        makeCourse();
-        return course.stepCount;
     }
 
     private void sortSuffixes() {
@@ -1517,28 +1509,21 @@ public final class PlaceMender {
             end = Math.max(0, Math.min(n, bytes.size));
             readNumber(bytes, 0, IMAGE_CELLS);
             for (int i = 0; i <= MOST_ACTS && at < end && faultCode == 0; i++) {
-                readAct(bytes);
-            }
-        }
-
-        private void readAct(Cells bytes) {
-            int code = bytes.at(at);
-            if (code < SAVE || code > SEND) {
-                fail(FAULT_CODE, at);
-            } else if (actCount >= MOST_ACTS) {
-                fail(FAULT_ACTS, at);
-            } else {
-                at++;
-                kind[actCount] = code;
-                readNumbers(bytes, code);
-                if (faultCode == 0) {
-                    actCount++;
+                int code = bytes.at(at);
+                if (code < SAVE || code > SEND) {
+                    fail(FAULT_CODE, at);
+                } else if (actCount >= MOST_ACTS) {
+                    fail(FAULT_ACTS, at);
+                } else {
+                    at++;
+                    readAct(bytes, code);
                 }
             }
         }
 
-        private void readNumbers(Cells bytes, int code) {
+        private void readAct(Cells bytes, int code) {
             int a = actCount;
+            kind[a] = code;
             switch (code) {
                 case SAVE:
                     source[a] = readNumber(bytes, 0, FLASH_CELLS - 1);
@@ -1561,6 +1546,9 @@ public final class PlaceMender {
                     source[a] = at;
                     passCells(length[a]);
                     break;
+            }
+            if (faultCode == 0) {
+                actCount++;
             }
         }
 
@@ -1791,7 +1779,7 @@ public final class PlaceMender {
                 case UNSAVE:
                     return device.stash[from];
                 default:
-                    return patchBytes.at(from);
+                    return from < patchBytes.size ? patchBytes.row[from] : ERASED;
             }
         }
 
@@ -1906,13 +1894,9 @@ public final class PlaceMender {
             if (what == ALL) {
                 return course.stepCount * PHASES;
             }
-            if (found[what] == NONE) {
-                found[what] = countSurvived(course, what);
+            if (found[what] != NONE) {
+                return found[what];
             }
-            return found[what];
-        }
-
-        private int countSurvived(Course course, int what) {
             int times = 0;
             for (int s = 0; s < course.stepCount; s++) {
                 for (int phase = 0; phase < PHASES; phase++) {
@@ -1922,6 +1906,7 @@ public final class PlaceMender {
                     }
                 }
             }
+            found[what] = times;
             return times;
         }
 

@@ -8,7 +8,7 @@ import java.util.Random;
 
 /** Many runs of calls, made by fixed seeds, on the program and on the model: every answer must be the same. */
 public final class ModelRuns {
-    private static final int RUNS = 700;
+    private static final int RUNS = 160;
     private static final int CALLS = 500;
     private static final int[] EDGES = {-2, -1, 0, 1, 2, 3, 4, 5, 9, 10, 11, 19, 20, 21, 36, 39, 40, 41, 160, 255, 256,
         400, 401, Integer.MAX_VALUE, Integer.MIN_VALUE};

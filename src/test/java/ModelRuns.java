@@ -39,20 +39,56 @@ public final class ModelRuns {
         }
         Check check = new Check();
         check.same("how many methods", face.length, 50);
+        for (int i = 0; i < face.length; i++) {
+            for (int round = 0; round < 6; round++) {
+                new ModelRuns(check, 1000 + round, face, faceOfModel).askFirst(i, round);
+            }
+        }
         for (int run = 0; run < RUNS && check.wrong() < 10; run++) {
             new ModelRuns(check, run, face, faceOfModel).go();
         }
         check.end();
     }
 
+    /** One call right behind others that leave all to be reckoned anew. */
+    private void askFirst(int i, int round) throws ReflectiveOperationException {
+        List<Integer> old = new ArrayList<>();
+        for (int n = 0; n < 40; n++) {
+            old.add(random.nextInt(30));
+        }
+        feed(old);
+        call("old", 40);
+        feed(shuffled(old));
+        call("fresh", 40);
+        call("burn");
+        if (round > 0) {
+            call("take");
+            call("go", 2);
+            call("image", 0);
+            call("burn");
+            feed(old.subList(0, 20));
+            call(round > 2 ? "old" : "fresh", 20);
+            call(round % 2 == 0 ? "restore" : "undo", round % 2);
+        }
+        Object[] numbers = new Object[asked[i].getParameterCount()];
+        for (int p = 0; p < numbers.length; p++) {
+            numbers[p] = p == 0 ? 1 + round % 2 : 0;
+        }
+        compare(i, numbers);
+        for (int what = 0; what < 12; what++) {
+            call("count", what);
+        }
+    }
+
     private void go() throws ReflectiveOperationException {
         int calls = 0;
         while (calls < CALLS) {
-            calls += switch (random.nextInt(12)) {
+            calls += switch (random.nextInt(13)) {
                 case 0 -> newImages();
                 case 1 -> takeByHand();
                 case 2, 3 -> lifeOfDevice();
                 case 4 -> wholeState();
+                case 5 -> stashAlone();
                 default -> anyCalls(12);
             };
         }
@@ -218,6 +254,33 @@ public final class ModelRuns {
 
     private int upTo(int most) {
         return 1 + random.nextInt(most);
+    }
+
+    /** Flash that hardly changes, so that only the cells of the stash that are needed tell steps from one another. */
+    private int stashAlone() throws ReflectiveOperationException {
+        List<Integer> old = new ArrayList<>();
+        for (int i = 0; i < 40; i++) {
+            old.add(random.nextInt(4) == 0 ? 0 : 255);
+        }
+        int calls = call("old", 0) + feed(old) + call("old", 40) + call("burn");
+        List<Integer> bytes = new ArrayList<>(List.of(0));
+        int acts = 2 + random.nextInt(6);
+        for (int i = 0; i < acts; i++) {
+            int length = 1 + random.nextInt(6);
+            int flash = random.nextInt(41 - length);
+            int stash = random.nextInt(Math.min(10, 21 - length));
+            bytes.addAll(random.nextBoolean() ? List.of(1, flash, length, stash) : List.of(3, flash, stash, length));
+        }
+        calls += feed(bytes) + call("load", bytes.size());
+        for (int s = 0; s <= model.steps() && s < 12; s++) {
+            calls += call("fits", 0) + call("fits", 1) + call("fits", 2);
+            if (random.nextInt(4) == 0) {
+                calls += call("cut", random.nextInt(4), random.nextInt(4)) + call("fits", 2) + call("forget");
+                calls += call("boot") + call("fits", 1);
+            }
+            calls += call("go", 1);
+        }
+        return calls;
     }
 
     private int lifeOfDevice() throws ReflectiveOperationException {

@@ -500,6 +500,12 @@ public final class Promises {
         due("needs()", x.needs(), 4);
         due("without rings", with("abc", "Xabc").needs(), 0);
         due("without cells", new PlaceMender().needs(), 0);
+        String half = "abcdefghijklmnopqrst";
+        String other = "ABCDEFGHIJKLMNOPQRST";
+        due("two halves", with(half + other, other + half).needs(), 20);
+        PlaceMender y = with("0123456789:;<=>?@ABCDEFGHIJKLMNOPQRSTUVW", "6789:;@ABCDEFGHOPQRSTUV345689:;<=>?23456");
+        y.terms(2, 2);
+        due("too many saved at once", y.needs(), NONE);
         promise = 24;
         due("sized(3)", x.sized(3), 20);
         due("sized(4)", x.sized(4), 21);
@@ -560,12 +566,14 @@ public final class Promises {
         takingPlans();
         loadingFaults();
         stepsOfActs();
+        mostSteps();
         going();
         cutting();
         booting();
         forgetting();
         spoilingAndDigests();
         undoing();
+        stashOfStart();
         fitting();
     }
 
@@ -697,6 +705,40 @@ public final class Promises {
         due("the last", x.cell(2, 39), 9);
         due("start is as it is now", load(x, 0), 0);
         due("due(0, 9)", x.due(0, 9), x.digest(9));
+    }
+
+    /** The longest patch there is: all cells are moved up by one, 36 times. */
+    private void mostSteps() {
+        int[] bytes = new int[1 + 36 * 4];
+        for (int i = 1; i < bytes.length; i += 4) {
+            bytes[i] = 2;
+            bytes[i + 1] = 1;
+            bytes[i + 3] = 39;
+        }
+        PlaceMender x = burnt("abcd");
+        promise = 30;
+        due("36 acts of ten blocks", load(x, bytes), 360);
+        promise = 33;
+        due("step(359, 0)", x.step(359, 0), 35);
+        due("step(359, 1)", x.step(359, 1), 0);
+        due("step(350, 1)", x.step(350, 1), 9);
+        promise = 45;
+        due("wear(9)", x.wear(9), 36);
+        promise = 46;
+        due("cuts(0)", x.cuts(0), 1440);
+        due("cuts(1)", x.cuts(1), 1440);
+        due("cuts(2)", x.cuts(2), 1440);
+        promise = 47;
+        due("twice(3, 2)", x.twice(3, 2), 360);
+        promise = 34;
+        due("go(359)", x.go(359), 359);
+        due("go(400)", x.go(400), 1);
+        flashIs(x, "a".repeat(37) + "bcd");
+        promise = 41;
+        due("due(360, 9)", x.due(360, 9), x.digest(9));
+        due("due(361, 9)", x.due(361, 9), NO_SUCH);
+        promise = 42;
+        due("fits(1)", x.fits(1), 360);
     }
 
     private void stepsOfActs() {
@@ -933,6 +975,33 @@ public final class Promises {
         due("isn't undone", x.count(10), 0);
         x.take();
         due("take()", x.count(10), 1);
+    }
+
+    /** What a patch reads of the stash is due as it was when that patch was taken. */
+    private void stashOfStart() {
+        promise = 39;
+        PlaceMender x = burnt("abcdefgh");
+        load(x, 8, 1, 0, 4, 0);
+        x.go(1);
+        load(x, 8, 3, 8, 0, 4);
+        long want = x.digest(0);
+        due("due(1, 2)", x.due(1, 2), want);
+        x.image(1);
+        load(x, 8, 1, 4, 4, 0);
+        x.go(1);
+        load(x, 8, 3, 8, 0, 4);
+        due("due(1, 2) of another start", x.due(1, 2), x.digest(1));
+        x.image(0);
+        x.undo(3);
+        due("due(1, 2) undone", x.due(1, 2), want);
+        due("fits(2) undone", x.fits(2), 1);
+        x.go(1);
+        due("digest(2)", x.digest(2), want);
+        promise = 50;
+        x.restore(0);
+        due("due(1, 2) restored", x.due(1, 2), x.digest(1));
+        x.restore(1);
+        due("due(1, 2) restored", x.due(1, 2), want);
     }
 
     private void fitting() {

@@ -1056,6 +1056,13 @@ public final class Promises {
         load(x, 8, 1, 0, 4, 0, 3, 14, 0, 4, 4, 14, 2, 255, 255, 4, 16, 2, 255, 255, 1, 4, 2, 0);
         x.go(6);
         due("as at the start, and with the other stash", x.fits(2), 3);
+        for (int cell = 0; cell < 20; cell++) {
+            x.burn();
+            load(x, 8, 1, 0, 1, cell, 3, 12, cell, 1);
+            due("needed at 1: " + cell, x.fits(2), 1);
+            x.go(1);
+            due("as due at 1: " + cell, x.fits(2), 2);
+        }
     }
 
     // ---- 44 to 48

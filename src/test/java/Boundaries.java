@@ -22,6 +22,7 @@ public final class Boundaries {
         new PaperBoundaries(book).all();
         new TermsBoundaries(book).all();
         new DeviceTermsBoundaries(book).all();
+        new CallTermsBoundaries(book).all();
         book.checkAllTested();
         check.end();
     }

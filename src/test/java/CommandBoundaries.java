@@ -133,6 +133,11 @@ final class CommandBoundaries {
         }
         book.due("ring(0, 13) of thirteen", Samples.thirteen().ring(0, 13), NONE);
         book.due("a copy in none", Calls.with("abc", "?abc").ring(1, NONE), NONE);
+        PlaceMender fewer = Samples.thirteen();
+        fewer.ring(0, NONE);
+        Calls.set(fewer, "abc", "???abc");
+        book.due("a copy in none, where there were more commands", fewer.ring(1, NONE), NONE);
+        book.due("none is in a ring then", fewer.ringed(), 0);
         for (int k : new int[] {-1, 20, 32, LEAST_INT, MOST_INT}) {
             book.due("ring(" + k + ", 0)", x.ring(k, 0), -2);
             book.due("told first: ring(" + k + ", -2)", x.ring(k, -2), -2);
@@ -167,15 +172,20 @@ final class CommandBoundaries {
                 + "(bits, of as few the least), 2: the fewest CELLS that such ones have together, 3: these (so).");
         PlaceMender[] all = {
             new PlaceMender(), Calls.with("abcdef", "Xabcdef"), Samples.twenty(), Samples.thirteen(),
-            Samples.sixPairs(), Samples.twoHalves(), Calls.with("abcdefg", "defgabc")
+            Samples.sixPairs(), Samples.twoHalves(), Calls.with("abcdefg", "defgabc"),
+            Calls.with("abcdefghijklmnopqrst", "ijklmnopabcQefghRSTU"),
+            Calls.with("abcdefghijklmno", "lmnhijkabcdefgh"), Calls.with("abcdefghijkl", "jklghiabcdef")
         };
         int[][] want = {{0, 0, 0, 0}, {0, 0, 0, 0}, {1, 1 << 17, 3, 1 << 17}, {1, 1, 3, 1},
-            {6, 0b010101010101, 18, 0b010101010101}, {1, 1, 20, 1}, {1, 1, 3, 2}};
+            {6, 0b010101010101, 18, 0b010101010101}, {1, 1, 20, 1}, {1, 1, 3, 2}, {1, 1, 7, 0b1010}, {1, 4, 7, 3},
+            {1, 4, 6, 3}};
         for (int i = 0; i < all.length; i++) {
             for (int what = 0; what < 4; what++) {
                 book.due("fewest(" + what + ") of " + i, all[i].fewest(what), want[i][what]);
             }
         }
+        Calls.set(all[3], "abcdef", "abcdef");
+        book.due("where there was a ring, and is none then", all[3].fewest(0), 0);
         book.says(18, "-2.");
         for (int what : new int[] {-1, 4, LEAST_INT, MOST_INT}) {
             book.due("fewest(" + what + ")", all[3].fewest(what), -2);

@@ -373,6 +373,10 @@ final class DeviceBoundaries {
         x = Calls.with("abcdef", "bcdefa");
         x.burn();
         book.due("all are there, none at its place", x.right(), 0);
+        Calls.setNew(x, Calls.cells("abcdef"));
+        book.due("all six", x.right(), 6);
+        Calls.setNew(x, Calls.cells("abcde"));
+        book.due("just NEW's five", x.right(), 5);
         Calls.setNew(x);
         book.due("no cells of NEW", x.right(), 0);
     }

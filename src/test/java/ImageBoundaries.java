@@ -98,6 +98,7 @@ final class ImageBoundaries {
             book.due("the last", x.cell(what, size[0] - 1), size[0] - 1);
             book.due("behind the last", x.cell(what, size[0]), NONE);
         }
+        takenAnew(what);
         book.says(promise, refused);
         int[][] wrong = {{-1, 0}, {-1, 20}, {LEAST_INT, 20}, {1, 0}, {21, 20}, {40, 20}, {41, 40}, {41, 60}, {41, 160},
             {160, 160}, {MOST_INT, 60}, {MOST_INT, 0}};
@@ -106,6 +107,25 @@ final class ImageBoundaries {
                 Calls.set(x, "abc", "def");
                 Calls.feed(x, Calls.distinct(w[1]));
             }, w[0] + " of " + w[1], -3, x -> take(x, promise, w[0]));
+        }
+    }
+
+    /** What was told of the cells that were there is told of those that are there then. */
+    private void takenAnew(int what) {
+        PlaceMender x = Calls.with("bca", "bca");
+        book.due("suffix(0)", x.suffix(0), 2);
+        book.due("commands()", x.commands() + x.plan(3), 2);
+        if (what == 0) {
+            Calls.setOld(x, Calls.cells("abc"));
+            book.due("of another OLD, suffix(0)", x.suffix(0), 0);
+            book.due("of another OLD, plan(3)", x.plan(3), 1 + 3 + 3);
+            x.old(0);
+            book.due("of no OLD, suffix(0)", x.suffix(0), NONE);
+        } else {
+            Calls.setNew(x, Calls.cells("abcd"));
+            book.due("of another NEW, plan(3)", x.plan(3), 1 + 3 + 4);
+            x.fresh(0);
+            book.due("of no NEW, plan(3)", x.plan(3), 1);
         }
     }
 
@@ -252,6 +272,9 @@ final class ImageBoundaries {
                 book.due("of 0, last, " + what, y.run(1, what), zero[what]);
             }
         }
+        PlaceMender both = Calls.with("abcabc", "abc?");
+        book.due("two have it", both.run(0, 2), 2);
+        book.due("none has it, asked then", both.run(3, 2), 0);
         book.due("up to the end of OLD", Calls.with("xxabc", "abcd").run(0, 0), 3);
         book.due("up to the end of NEW", Calls.with("abcd", "xxabc").run(2, 0), 3);
         book.says(10, "-2: j, what.");
@@ -331,6 +354,9 @@ final class ImageBoundaries {
         book.due("a stay shorter than longest", x.least(), 1 + 4);
         x.terms(0, 4);
         book.due("no stay shorter than LEAST", x.least(), 1 + 4 + 4);
-        book.due("all stays", Calls.with(Calls.distinct(40), Calls.distinct(40)).least(), 1);
+        x = Calls.with(Calls.distinct(40), Calls.distinct(40));
+        book.due("all stays", x.least(), 1);
+        Calls.setOld(x, Calls.distinct(3));
+        book.due("three stay, where forty did", x.least(), 1 + 3 + 37);
     }
 }

@@ -64,6 +64,10 @@ final class PaperBoundaries {
         hazardIs("written behind it", NONE, NONE, 40, 2, 20, 8, 4, 4, 8, 1, 9);
         hazardIs("saves write no flash", NONE, NONE, 40, 1, 0, 4, 0, 1, 0, 4, 0);
         hazardIs("unsaves and sends read none", NONE, NONE, 40, 4, 0, 1, 9, 3, 4, 0, 4, 4, 0, 1, 9);
+        PlaceMender shorter = Calls.burnt("abcdefgh");
+        Calls.load(shorter, 40, 4, 0, 1, 9, 2, 20, 0, 1);
+        Calls.load(shorter, 40, 4, 0, 1, 9);
+        book.due("of a shorter patch than the one before it", shorter.hazard(0), NONE);
         book.due("at first", new PlaceMender().hazard(0), NONE);
         book.due("at first", new PlaceMender().hazard(1), NONE);
         PlaceMender x = Calls.burnt("abcdefgh");
@@ -126,6 +130,16 @@ final class PaperBoundaries {
         Calls.load(x, 40, 2, 0, 2, 2);
         cutsAre("two cells in their block", x, 4, 4, 4, 3);
         cutsAre("the fewest", shifted(), 4, 4, 4, 2);
+        x = Calls.with("abcdefgh", "efghabcd");
+        x.burn();
+        x.take();
+        cutsAre("by way of the stash", x, 12, 12, 12, 12);
+        Calls.burn(x, "abcd");
+        Calls.load(x, 40, 1, 0, 4, 0);
+        x.go(1);
+        Calls.load(x, 40, 3, 8, 0, 4);
+        cutsAre("from START's stash", x, 4, 4, 4, 4);
+        x = Calls.burnt("abcd");
         // without a journal two cells of block 0 stay erased; all other blocks are erased as it is
         x = Calls.burnt("abcd");
         Calls.load(x, Calls.patchOf(36, 2, 0, 0, 40));
@@ -160,11 +174,15 @@ final class PaperBoundaries {
         PlaceMender one = shifted();
         PlaceMender most = Calls.burnt("abcd");
         Calls.load(most, Calls.patchOf(36, 2, 1, 0, 39));
+        PlaceMender stashed = Calls.with("abcdefgh", "efghabcd");
+        stashed.burn();
+        stashed.take();
         for (int phase = 0; phase < 4; phase++) {
             for (int other = 0; other < 4; other++) {
                 String call = "twice(" + phase + ", " + other + ")";
                 book.due("without steps, " + call, new PlaceMender().twice(phase, other), 0);
                 book.due("one step, " + call, one.twice(phase, other), 1);
+                book.due("by way of the stash, " + call, stashed.twice(phase, other), 3);
                 book.due("the most steps, " + call, most.twice(phase, other), 360);
             }
         }
@@ -287,6 +305,16 @@ final class PaperBoundaries {
         busy(none);
         none.restore(0);
         book.same("of a new object", Calls.surface(none), Calls.surface(new PlaceMender()));
+        PlaceMender y = Calls.with("ba", "ba");
+        y.image(0);
+        Calls.set(y, "ab", "??");
+        y.terms(0, 8);
+        book.due("the other image's first suffix", y.suffix(0), 0);
+        book.due("the other image's patch", y.plan(3), 1 + 3 + 2);
+        y.restore(0);
+        book.due("its first suffix", y.suffix(0), 1);
+        book.due("its patch", y.patch(4), 'b');
+        book.due("its LEAST", y.count(2), 3);
     }
 
     private void restoreRefused() {

@@ -445,5 +445,8 @@ final class PatchBoundaries {
         book.due("from START on, wherever it is", x.step(2, 2), 1);
         x.spoil(39, 7);
         book.due("as DUE, not as it is", x.step(3, 2), 1);
+        x = Calls.burnt("abcd");
+        Calls.load(x, 40, 4, 0, 1, 'X', 4, 0, 1, 'a');
+        book.due("it is other cells, and then the first ones again", x.step(0, 2) + x.step(1, 2), 2);
     }
 }

@@ -94,6 +94,10 @@ final class PlanBoundaries {
         book.due("the last", y.patch(43), 255);
         PlaceMender z = Samples.fivePairsWithAdds();
         book.due("the last of 101", z.patch(100), 3);
+        Calls.setNew(z, Calls.distinct(3));
+        book.due("of a shorter one then", z.patch(0), 3);
+        book.due("behind its last", z.patch(1), NONE);
+        z = Samples.fivePairsWithAdds();
         book.says(22, "NONE: not so many, i is below 0.");
         PlaceMender[] all = {x, y, z};
         int[] sizes = {1, 44, 101};
@@ -169,11 +173,15 @@ final class PlanBoundaries {
         book.says(26, "The RULE (what 0), the CHOICE (1) by which, all else as it is, SIZE is least; the lowest.");
         book.due("of no cells, the rule", new PlaceMender().best(0), 0);
         book.due("of no cells, the choice", new PlaceMender().best(1), 0);
-        PlaceMender x = Calls.with("abcXabcXabc", "????abc");
-        book.due("the choice, the last one alone", x.best(1), 2);
+        PlaceMender x = Calls.with("abcXabc", "????abc");
         book.due("the rule, all alike", x.best(0), 0);
-        x = Calls.with("abcXabc", "????abc");
         book.due("the choice, the last two alike", x.best(1), 1);
+        bestOfThree("the first choice alone", 1, 20, "defYdef", "abcdefdef", 0);
+        bestOfThree("the second choice alone", 1, 8, "XghiXYghi", "ghighi", 1);
+        bestOfThree("the third choice alone", 1, 8, "defYdef", "def?def", 2);
+        bestOfThree("the first rule alone", 0, 4, "abcdefghijklmnopqr", "klmnoghijpqrabcdef", 0);
+        bestOfThree("the second rule alone", 0, 4, "abcdefghij", "hijefgabcd", 1);
+        bestOfThree("the third rule alone", 0, 4, "abcdefghijklmno", "ijklmnoabcd?fgh", 2);
         x = Calls.with("abcdefghijklmnopqrst", "ijklmnopabcQefghRSTU");
         book.due("the rule, the last two alike", x.best(0), 1);
         x.terms(2, 2);
@@ -186,6 +194,20 @@ final class PlanBoundaries {
         for (int what : new int[] {-1, 2, LEAST_INT, MOST_INT}) {
             book.due("best(" + what + ")", x.best(what), -2);
             book.due("of no cells, best(" + what + ")", new PlaceMender().best(what), -2);
+        }
+    }
+
+    private void bestOfThree(String told, int what, int budget, String old, String fresh, int want) {
+        PlaceMender x = Calls.with(old, fresh);
+        x.terms(3, budget);
+        book.due(told, x.best(what), want);
+        int[] sizes = new int[3];
+        for (int v = 0; v < 3; v++) {
+            x.terms(2 - what, v);
+            sizes[v] = x.plan(3);
+        }
+        for (int v = 0; v < 3; v++) {
+            book.due(told + ", less than by " + v, v == want || sizes[want] < sizes[v] ? 1 : 0, 1);
         }
     }
 
